@@ -2323,8 +2323,11 @@ public final class Polyforge {
         }
         if (guide != null && missing <= 0) {
           dropPair(pair);
-        } else if (treat(pair)) {
-          missing--;
+        } else {
+          int pairTotal = pairs[pair + TOTAL];
+          load(pair);
+          divider.divide(work, pairTotal);
+          missing -= take(pairTotal) ? 1 : 0;
         }
       }
     }
@@ -2349,17 +2352,15 @@ public final class Polyforge {
       System.arraycopy(pairs, PAIR * pairCount, pairs, pair, PAIR);
     }
 
-    private boolean treat(int pair) {
+    /** Takes a pair away, and gives the divider the difference of its polynomials, their leading terms cancelled. */
+    private void load(int pair) {
       int first = pairs[pair];
       int second = pairs[pair + 1];
-      int total = pairs[pair + TOTAL];
       long multiple = multipleKey(pair);
       dropPair(pair);
       divider.begin(work.prime);
       divider.insertTail(work, first, multiple - work.key(first, 0), 1);
       divider.insertTail(work, second, multiple - work.key(second, 0), work.prime - 1);
-      divider.divide(work, total);
-      return take(total);
     }
 
     /** Chooses the polynomials that a new one needs a pair with, after Gebauer and Moeller. */
