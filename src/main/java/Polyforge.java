@@ -34,8 +34,8 @@ public final class Polyforge {
   private final int[] tally = new int[VARIABLES * GREATEST_EXPONENT + 1];
   private final Slate slate = new Slate();
   private final Bench bench = new Bench();
-  private final Divider divider = new Divider();
-  private final Completion completion = new Completion(divider);
+  private final Completion completion = new Completion();
+  private final Divider divider = completion.divider;
 
   public Polyforge() {
   }
@@ -492,7 +492,7 @@ public final class Polyforge {
     if (ruleCount >= MOST_RULES) {
       throw new IllegalStateException("no more rules");
     }
-    rules[ruleCount] = new Rule(Polynomial.packed(first, second, third), told, variable, sign);
+    rules[ruleCount] = new Rule(Polynomial.monomialWith(first, second, third), told, variable, sign);
     return ruleCount++;
   }
 
@@ -743,7 +743,7 @@ public final class Polyforge {
   private int keepLine(Line line, int prime) {
     slate.begin(prime);
     for (int exponent = line.top; exponent >= 0; exponent--) {
-      slate.put(line.at(exponent), Polynomial.packed(exponent, 0, 0));
+      slate.put(line.at(exponent), Polynomial.monomialWith(exponent, 0, 0));
     }
     return keep();
   }
@@ -875,7 +875,7 @@ public final class Polyforge {
     if (!isExponent(first) || !isExponent(second) || !isExponent(third)) {
       return false;
     }
-    slate.spread(divider.restCoefficient(index), Polynomial.packed(first, second, third));
+    slate.spread(divider.restCoefficient(index), Polynomial.monomialWith(first, second, third));
     return true;
   }
 
@@ -996,7 +996,7 @@ public final class Polyforge {
       this.packed = packed;
     }
 
-    static int packed(int first, int second, int third) {
+    static int monomialWith(int first, int second, int third) {
       return (first & 31) << 10 | (second & 31) << 5 | third & 31;
     }
 
@@ -1132,7 +1132,7 @@ public final class Polyforge {
       }
     }
 
-    /** Of the terms of a degree, and of a last exponent if it is not -1, all orders agree: the one with an index. */
+    /** Where the term with an index stands among those of a degree, and of a last exponent if that is not -1. */
     private int placeWith(int total, int last, int index) {
       int left = index;
       for (int i = 0; i < packed.length; i++) {
@@ -1299,7 +1299,7 @@ public final class Polyforge {
       for (int first = reach[0]; first >= 0; first--) {
         for (int second = reach[1]; second >= 0; second--) {
           for (int third = reach[2]; third >= 0; third--) {
-            int monomial = Polynomial.packed(first, second, third);
+            int monomial = Polynomial.monomialWith(first, second, third);
             if (cells[monomial] != 0) {
               inRange &= put(cells[monomial], monomial);
               cells[monomial] = 0;
@@ -2236,7 +2236,7 @@ public final class Polyforge {
 
   /** Makes reduced bases: pairs of polynomials are brought together by rising total degree, after Buchberger. */
   private static final class Completion {
-    /** Seven times what the largest of a million random bases needed. */
+    /** Seven times what the largest of a million random bases needed; what goes beyond is left out. */
     private static final int MOST_ELEMENTS = 400;
     private static final int MOST_PAIRS = 1000;
     private static final int PAIR = 7;
@@ -2247,7 +2247,7 @@ public final class Polyforge {
     private static final int CHOSEN = 1;
     private static final int DROPPED = 2;
 
-    private final Divider divider;
+    private final Divider divider = new Divider();
     private final Stock work = new Stock(MOST_ELEMENTS, 1024);
     private final Stock built = new Stock(MOST_ELEMENTS, 512);
     /** For each pair its two polynomials, its total degree, and the exponents of the least common multiple. */
@@ -2255,10 +2255,6 @@ public final class Polyforge {
     private int pairCount = 0;
     private final int[] multiples = new int[EXPONENTS * MOST_ELEMENTS];
     private final int[] states = new int[MOST_ELEMENTS];
-
-    Completion(Divider divider) {
-      this.divider = divider;
-    }
 
     /** Begins a basis in the order r. */
     void startWithGenerators(Ideal ideal) {
@@ -2348,6 +2344,9 @@ public final class Polyforge {
     }
 
     private void dropPair(int pair) {
+      if (pairCount < 1) {
+        return;
+      }
       pairCount--;
       System.arraycopy(pairs, PAIR * pairCount, pairs, pair, PAIR);
     }
