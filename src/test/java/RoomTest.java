@@ -87,8 +87,8 @@ public final class RoomTest {
     Polyforge x = new Polyforge();
     int[] cubes = new int[20];
     for (int i = 0; i < cubes.length; i++) {
-      int p = x.constant(prime, 1 + random.nextInt(prime - 1));
-      for (int j = 0; j < 3 && x.polynomials() < 26; j++) {
+      int p = x.variable(prime, random.nextInt(3));
+      for (int j = random.nextInt(3); j > 0; j--) {
         p = x.multiply(p, x.variable(prime, random.nextInt(3)));
       }
       cubes[i] = p;
