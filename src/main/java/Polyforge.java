@@ -502,10 +502,12 @@ public final class Polyforge {
     if (signOf(variable) != UNKNOWN) {
       throw new IllegalStateException("a sign is known");
     }
-    signs[variable] = sign;
-    signFrames[variable] = openFrames;
     int known = 0;
     for (int i = 0; i < VARIABLES; i++) {
+      if (i == variable) {
+        signs[i] = sign;
+        signFrames[i] = openFrames;
+      }
       known += signOf(i) != UNKNOWN ? 1 : 0;
     }
     return known;
@@ -571,7 +573,7 @@ public final class Polyforge {
     requireAny();
     int sum = 0;
     for (int i = 0; i < keptCount; i++) {
-      Polynomial counted = kept[i];
+      Polynomial counted = keptAt(i);
       sum += counted != null ? counted.length() : 0;
     }
     return (double) sum / (double) keptCount;
@@ -579,7 +581,7 @@ public final class Polyforge {
 
   public boolean isSound() {
     for (int i = 0; i < keptCount; i++) {
-      Polynomial checked = kept[i];
+      Polynomial checked = keptAt(i);
       if (checked == null || isKeptBefore(checked, i)) {
         return false;
       }
@@ -588,7 +590,7 @@ public final class Polyforge {
       }
     }
     for (int i = 0; i < idealCount; i++) {
-      Ideal ideal = ideals[i];
+      Ideal ideal = addedAt(i);
       if (ideal == null || !holdsGenerators(ideal, basisOf(ideal))) {
         return false;
       }
@@ -708,16 +710,24 @@ public final class Polyforge {
     }
   }
 
+  private Polynomial keptAt(int number) {
+    return number >= 0 && number < keptCount && number < kept.length ? kept[number] : null;
+  }
+
   private Polynomial polynomialAt(int number) {
-    Polynomial found = number >= 0 && number < keptCount ? kept[number] : null;
+    Polynomial found = keptAt(number);
     if (found == null) {
       throw new IndexOutOfBoundsException("no such polynomial");
     }
     return found;
   }
 
+  private Ideal addedAt(int number) {
+    return number >= 0 && number < idealCount && number < ideals.length ? ideals[number] : null;
+  }
+
   private Ideal idealAt(int number) {
-    Ideal found = number >= 0 && number < idealCount ? ideals[number] : null;
+    Ideal found = addedAt(number);
     if (found == null) {
       throw new NoSuchElementException("no such ideal");
     }
@@ -750,7 +760,7 @@ public final class Polyforge {
 
   private int keep() {
     for (int i = 0; i < keptCount; i++) {
-      Polynomial known = kept[i];
+      Polynomial known = keptAt(i);
       if (known != null && known.isSame(slate.ground, slate.result, slate.length)) {
         return i;
       }
@@ -758,13 +768,13 @@ public final class Polyforge {
     if (keptCount >= MOST_POLYNOMIALS) {
       throw new IllegalStateException("no more polynomials");
     }
-    kept[keptCount] = new Polynomial(slate.ground, Arrays.copyOf(slate.result, slate.length));
+    kept[keptCount] = new Polynomial(slate.ground, slate.listed());
     return keptCount++;
   }
 
   private boolean isKeptBefore(Polynomial polynomial, int number) {
     for (int i = 0; i < number; i++) {
-      Polynomial earlier = kept[i];
+      Polynomial earlier = keptAt(i);
       if (earlier != null && earlier.isSame(polynomial.ground, polynomial.packed, polynomial.length())) {
         return true;
       }
@@ -773,7 +783,7 @@ public final class Polyforge {
   }
 
   private boolean isLineAt(int number) {
-    Polynomial polynomial = kept[number];
+    Polynomial polynomial = keptAt(number);
     return polynomial != null && polynomial.isLine();
   }
 
@@ -938,7 +948,7 @@ public final class Polyforge {
 
   /** The first rule that can be used for a monomial, or null. */
   private Rule ruleFor(int monomial, int ground) {
-    for (int i = 0; i < ruleCount; i++) {
+    for (int i = 0; i < ruleCount && i < rules.length; i++) {
       Rule rule = rules[i];
       if (rule != null && canUse(rule, ground) && Polynomial.isMultiple(monomial, rule.monomial)) {
         return rule;
@@ -1169,12 +1179,20 @@ public final class Polyforge {
       System.arraycopy(polynomial.packed, 0, result, 0, length);
     }
 
+    long[] listed() {
+      return Arrays.copyOf(result, Math.max(length, 0));
+    }
+
+    private long term(int index) {
+      return index >= 0 && index < length && index < result.length ? result[index] : 0;
+    }
+
     long coefficient(int index) {
-      return index >= 0 && index < length ? Polynomial.coefficientOf(result[index]) : 0;
+      return Polynomial.coefficientOf(term(index));
     }
 
     int monomial(int index) {
-      return index >= 0 && index < length ? Polynomial.monomialOf(result[index]) : 0;
+      return Polynomial.monomialOf(term(index));
     }
 
     private static boolean isInRange(long coefficient) {
@@ -1245,8 +1263,8 @@ public final class Polyforge {
         reach[variable] = Math.max(reach[variable], height(variable) + polynomial.height(variable));
       }
       for (int i = 0; i < length; i++) {
-        long coefficient = Polynomial.coefficientOf(result[i]);
-        int monomial = Polynomial.monomialOf(result[i]);
+        long coefficient = coefficient(i);
+        int monomial = monomial(i);
         for (int j = 0; j < polynomial.packed.length; j++) {
           long other = polynomial.packed[j];
           int cell = monomial + Polynomial.monomialOf(other) & Polynomial.MONOMIALS - 1;
@@ -1313,7 +1331,7 @@ public final class Polyforge {
 
     /** Uses a rule on the term at a place; false if an exponent goes out of range. */
     boolean replace(int place, Rule rule) {
-      if (place < 0 || place >= length) {
+      if (place < 0 || place >= length || length > result.length) {
         return false;
       }
       long coefficient = coefficient(place);
@@ -1568,7 +1586,7 @@ public final class Polyforge {
     }
 
     private void notePart(Line line, int many) {
-      if (partCount < GREATEST_FACTORED_DEGREE) {
+      if (partCount >= 0 && partCount < times.length) {
         part(partCount).copy(line);
         times[partCount] = many;
         partCount++;
@@ -1955,7 +1973,7 @@ public final class Polyforge {
 
     /** Adds a polynomial; false if there is no more room. */
     boolean append(long[] list, int length, int total) {
-      if (count >= gone.length || length < 1 || length > list.length) {
+      if (count < 0 || count >= gone.length || length < 1 || length > list.length) {
         return false;
       }
       int start = starts[count];
@@ -2110,11 +2128,15 @@ public final class Polyforge {
       int mine = heads[level];
       int end = Math.min(ends[level], row.length);
       int theirs = from;
-      for (int i = end - mine + to - from; i > 0 && (mine < end || theirs < to) && mergedCount < merged.length; i--) {
+      int last = Math.min(to, list.length);
+      for (int i = end - mine + last - from; i > 0 && mergedCount < merged.length; i--) {
         long left = mine < end ? row[mine] : -1;
-        long right = theirs < to ? list[theirs] : -1;
+        long right = theirs < last ? list[theirs] : -1;
         long leftKey = mine < end ? left >> Key.COEFFICIENT_BITS : -1;
-        long rightKey = theirs < to ? (right >> Key.COEFFICIENT_BITS) + monomial : -1;
+        long rightKey = theirs < last ? (right >> Key.COEFFICIENT_BITS) + monomial : -1;
+        if (leftKey < 0 && rightKey < 0) {
+          return;
+        }
         long sum = leftKey >= rightKey ? left & Key.COEFFICIENT_MASK : 0;
         sum += rightKey >= leftKey ? (right & Key.COEFFICIENT_MASK) * factor : 0;
         mine += leftKey >= rightKey ? 1 : 0;
@@ -2220,7 +2242,7 @@ public final class Polyforge {
 
     void makeMonic() {
       int factor = restCount > 0 ? inverse(restCoefficient(0), prime) : 1;
-      for (int i = 0; i < restCount; i++) {
+      for (int i = 0; i < restCount && i < rest.length; i++) {
         rest[i] = Key.term(Key.ofTerm(rest[i]), mod(restCoefficient(i) * factor, prime));
       }
     }
@@ -2313,14 +2335,14 @@ public final class Polyforge {
       int missing = 0;
       for (int i = 0; i < Divider.MANY && pairCount > 0; i++) {
         int pair = leastPair();
-        if (guide != null && pairs[pair + TOTAL] != total) {
-          total = pairs[pair + TOTAL];
+        if (guide != null && pairPart(pair, TOTAL) != total) {
+          total = pairPart(pair, TOTAL);
           missing = work.countStandard(total) - guide.countStandard(total);
         }
         if (guide != null && missing <= 0) {
           dropPair(pair);
         } else {
-          int pairTotal = pairs[pair + TOTAL];
+          int pairTotal = pairPart(pair, TOTAL);
           load(pair);
           divider.divide(work, pairTotal);
           missing -= take(pairTotal) ? 1 : 0;
@@ -2331,7 +2353,7 @@ public final class Polyforge {
     private int leastPair() {
       int least = 0;
       for (int pair = PAIR; pair < PAIR * pairCount; pair += PAIR) {
-        int difference = Integer.compare(pairs[pair + TOTAL], pairs[least + TOTAL]);
+        int difference = Integer.compare(pairPart(pair, TOTAL), pairPart(least, TOTAL));
         if (difference < 0 || difference == 0 && multipleKey(pair) < multipleKey(least)) {
           least = pair;
         }
@@ -2340,11 +2362,17 @@ public final class Polyforge {
     }
 
     private long multipleKey(int pair) {
-      return Key.of(work.order, pairs[pair + LEAST], pairs[pair + LEAST + 1], pairs[pair + LEAST + 2]);
+      return Key.of(work.order, pairPart(pair, LEAST), pairPart(pair, LEAST + 1), pairPart(pair, LEAST + 2));
+    }
+
+    /** A part of the pair that begins at a place. */
+    private int pairPart(int pair, int part) {
+      int place = pair + part;
+      return place >= 0 && place < pairs.length ? pairs[place] : 0;
     }
 
     private void dropPair(int pair) {
-      if (pairCount < 1) {
+      if (pairCount < 1 || pairCount > MOST_PAIRS || pair < 0 || pair > PAIR * (pairCount - 1)) {
         return;
       }
       pairCount--;
@@ -2353,8 +2381,8 @@ public final class Polyforge {
 
     /** Takes a pair away, and gives the divider the difference of its polynomials, their leading terms cancelled. */
     private void load(int pair) {
-      int first = pairs[pair];
-      int second = pairs[pair + 1];
+      int first = pairPart(pair, 0);
+      int second = pairPart(pair, 1);
       long multiple = multipleKey(pair);
       dropPair(pair);
       divider.begin(work.prime);
@@ -2364,13 +2392,13 @@ public final class Polyforge {
 
     /** Chooses the polynomials that a new one needs a pair with, after Gebauer and Moeller. */
     private void choosePartners(int added) {
-      for (int i = 0; i < added; i++) {
+      for (int i = 0; i < added && i < MOST_ELEMENTS; i++) {
         states[i] = work.isGone(i) ? DROPPED : UNSEEN;
         for (int j = 0; j < EXPONENTS; j++) {
           multiples[EXPONENTS * i + j] = Math.max(work.lead(i, j), work.lead(added, j));
         }
       }
-      for (int i = 0; i < added; i++) {
+      for (int i = 0; i < added && i < MOST_ELEMENTS; i++) {
         if (states[i] == UNSEEN) {
           states[i] = isDisjoint(i, added) || !isCovered(i, added) ? CHOSEN : DROPPED;
         }
@@ -2378,7 +2406,7 @@ public final class Polyforge {
     }
 
     private void addPairs(int added) {
-      for (int i = 0; i < added; i++) {
+      for (int i = 0; i < added && i < MOST_ELEMENTS; i++) {
         if (states[i] == CHOSEN && !isDisjoint(i, added)) {
           addPair(i, added);
         }
@@ -2408,7 +2436,7 @@ public final class Polyforge {
 
     /** Whether the multiple of another polynomial that is not dropped divides that of this one. */
     private boolean isCovered(int element, int added) {
-      for (int i = 0; i < added; i++) {
+      for (int i = 0; i < added && i < MOST_ELEMENTS; i++) {
         if (i != element && states[i] != DROPPED && multipleDivides(i, element)) {
           return true;
         }
@@ -2418,15 +2446,21 @@ public final class Polyforge {
 
     private boolean multipleDivides(int first, int second) {
       for (int i = 0; i < EXPONENTS; i++) {
-        if (multiples[EXPONENTS * first + i] > multiples[EXPONENTS * second + i]) {
+        if (multiple(first, i) > multiple(second, i)) {
           return false;
         }
       }
       return true;
     }
 
+    /** An exponent of the least common multiple of a polynomial and the one that is added. */
+    private int multiple(int element, int variable) {
+      int place = EXPONENTS * element + variable;
+      return place >= 0 && place < multiples.length ? multiples[place] : 0;
+    }
+
     private void addPair(int first, int second) {
-      if (pairCount >= MOST_PAIRS) {
+      if (pairCount < 0 || pairCount >= MOST_PAIRS) {
         return;
       }
       int pair = PAIR * pairCount;
@@ -2434,7 +2468,7 @@ public final class Polyforge {
       pairs[pair + 1] = second;
       int total = 0;
       for (int i = 0; i < EXPONENTS; i++) {
-        int exponent = multiples[EXPONENTS * first + i];
+        int exponent = multiple(first, i);
         pairs[pair + LEAST + i] = exponent;
         total += exponent;
       }
@@ -2444,8 +2478,8 @@ public final class Polyforge {
 
     private void dropCoveredPairs(int added) {
       for (int pair = PAIR * (pairCount - 1); pair >= 0; pair -= PAIR) {
-        if (dividesMultiple(added, pair) && !givesMultiple(pairs[pair], added, pair)
-            && !givesMultiple(pairs[pair + 1], added, pair)) {
+        if (dividesMultiple(added, pair) && !givesMultiple(pairPart(pair, 0), added, pair)
+            && !givesMultiple(pairPart(pair, 1), added, pair)) {
           dropPair(pair);
         }
       }
@@ -2453,7 +2487,7 @@ public final class Polyforge {
 
     private boolean dividesMultiple(int element, int pair) {
       for (int i = 0; i < EXPONENTS; i++) {
-        if (work.lead(element, i) > pairs[pair + LEAST + i]) {
+        if (work.lead(element, i) > pairPart(pair, LEAST + i)) {
           return false;
         }
       }
@@ -2463,7 +2497,7 @@ public final class Polyforge {
     /** Whether two polynomials have the least common multiple of a pair. */
     private boolean givesMultiple(int first, int second, int pair) {
       for (int i = 0; i < EXPONENTS; i++) {
-        if (Math.max(work.lead(first, i), work.lead(second, i)) != pairs[pair + LEAST + i]) {
+        if (Math.max(work.lead(first, i), work.lead(second, i)) != pairPart(pair, LEAST + i)) {
           return false;
         }
       }
