@@ -2258,7 +2258,7 @@ public final class Polyforge {
 
   /** Makes reduced bases: pairs of polynomials are brought together by rising total degree, after Buchberger. */
   private static final class Completion {
-    /** Seven times what the largest of a million random bases needed; what goes beyond is left out. */
+    /** Some seven times what the largest of a million random bases needed; what goes beyond is left out. */
     private static final int MOST_ELEMENTS = 400;
     private static final int MOST_PAIRS = 1000;
     private static final int PAIR = 7;
