@@ -1,6 +1,6 @@
 /** Asks an object for whatever a call may have changed, as a text; what asking changes is as told, too. */
 final class Probe {
-  static final int KINDS = 4;
+  static final int KINDS = 5;
   private static final String ORDERS = "ldr";
 
   private final Machine machine;
@@ -21,6 +21,9 @@ final class Probe {
         break;
       case 2:
         probe.askIdeals();
+        break;
+      case 3:
+        probe.reckon();
         break;
       default:
         probe.askWhatIsKeptNext();
@@ -118,6 +121,35 @@ final class Probe {
     ask("addIdeal", 2);
     for (int i = 0; i < 5 && !wasRefused(); i++) {
       ask("addIdeal", 2);
+    }
+  }
+
+  /** What a refused call left behind where results are reckoned would show in the next ones. */
+  private void reckon() {
+    ask("setOrder", 'l');
+    int count = ask("polynomials");
+    for (int p = count - 1; p >= Math.max(0, count - 6); p--) {
+      tell(ask("normalForm", 0, p));
+      tell(ask("multiply", p, p));
+      tell(ask("substitute", p, 1, p));
+      tell(ask("rewrite", p));
+      tell(ask("add", p, p));
+      tell(ask("derive", p, 0));
+      tell(ask("quotient", p, p));
+      tell(ask("factorAt", p, 0));
+      ask("resultant", p, p);
+      ask("partial", p, p, 0);
+    }
+  }
+
+  private void tell(int polynomial) {
+    if (polynomial < 0) {
+      return;
+    }
+    int terms = Math.min(ask("terms", polynomial), 3);
+    for (int i = 0; i < terms; i++) {
+      ask("coefficientAt", polynomial, i);
+      ask("exponentAt", polynomial, i, 0);
     }
   }
 
