@@ -585,8 +585,11 @@ public final class Polyforge {
       if (checked == null || isKeptBefore(checked, i)) {
         return false;
       }
-      if (checked.isFactored() && !bench.agrees(checked)) {
-        return false;
+      if (checked.isFactored()) {
+        bench.splitUp(checked);
+        if (!bench.agrees(checked)) {
+          return false;
+        }
       }
     }
     for (int i = 0; i < idealCount; i++) {
@@ -850,6 +853,13 @@ public final class Polyforge {
     return Arrays.copyOf(row, Math.max(need, 2 * row.length));
   }
 
+  private static int[] roomy(int[] row, int need) {
+    if (need <= row.length) {
+      return row;
+    }
+    return Arrays.copyOf(row, Math.max(need, 2 * row.length));
+  }
+
   // ---- substituting, dividing, rewriting ----
 
   private static boolean canSubstitute(Polynomial outer, int variable, Polynomial inner) {
@@ -963,7 +973,7 @@ public final class Polyforge {
     long greatest = -1;
     for (int i = 0; i < slate.length; i++) {
       int monomial = slate.monomial(i);
-      long key = Key.of(order, monomial);
+      long key = Key.ofMonomial(order, monomial);
       if (key > greatest && ruleFor(monomial, slate.ground) != null) {
         greatest = key;
         found = i;
@@ -1372,7 +1382,7 @@ public final class Polyforge {
     }
 
     private void lowerTop() {
-      int lower = Math.min(top, LENGTH - 1);
+      int lower = top < LENGTH ? top : LENGTH - 1;
       for (; lower >= 0 && row[lower] == 0; lower--) {
         top = lower - 1;
       }
@@ -1615,9 +1625,11 @@ public final class Polyforge {
       return true;
     }
 
-    /** Whether a line is the product of its factors, and irreducible just if the powers of x tell so. */
+    /**
+     * Whether a line is the product of its factors, and irreducible just if the powers of x tell so; its factors must
+     * be the ones found last.
+     */
     boolean agrees(Polynomial polynomial) {
-      splitUp(polynomial);
       whole.load(polynomial);
       one.clear();
       one.put(0, whole.lead());
@@ -1856,7 +1868,7 @@ public final class Polyforge {
     static final int COEFFICIENT_BITS = 4;
     static final long COEFFICIENT_MASK = (1L << COEFFICIENT_BITS) - 1;
 
-    static long of(char order, int monomial) {
+    static long ofMonomial(char order, int monomial) {
       return of(order, Polynomial.exponentOf(monomial, 0), Polynomial.exponentOf(monomial, 1),
           Polynomial.exponentOf(monomial, 2));
     }
@@ -1906,21 +1918,24 @@ public final class Polyforge {
    */
   private static final class Stock {
     static final int EXPONENTS = VARIABLES + 1;
+    /** The document tells no bound for a basis; this one is far above what the room of a run could hold. */
+    static final int MOST_ELEMENTS = 1000000;
 
     private char order = 'r';
     private int prime = 2;
     private long[] packed;
-    private final int[] starts;
+    private int[] starts;
     /** The exponents of the leading monomials, four for each. */
-    private final int[] leads;
-    private final boolean[] gone;
+    private int[] leads;
+    /** For each polynomial 1 if it is gone, otherwise 0. */
+    private int[] gone;
     private int count = 0;
 
     Stock(int elements, int room) {
       packed = new long[Math.max(room, 1)];
       starts = new int[Math.max(elements, 0) + 1];
       leads = new int[EXPONENTS * Math.max(elements, 0)];
-      gone = new boolean[Math.max(elements, 0)];
+      gone = new int[Math.max(elements, 0)];
     }
 
     void clear(int prime, char order) {
@@ -1962,22 +1977,22 @@ public final class Polyforge {
     }
 
     boolean isGone(int element) {
-      return element < 0 || element >= gone.length || gone[element];
+      return element < 0 || element >= gone.length || gone[element] != 0;
     }
 
     void remove(int element) {
       if (element >= 0 && element < gone.length) {
-        gone[element] = true;
+        gone[element] = 1;
       }
     }
 
-    /** Adds a polynomial; false if there is no more room. */
+    /** Adds a polynomial, which has terms; false without any. */
     boolean append(long[] list, int length, int total) {
-      if (count < 0 || count >= gone.length || length < 1 || length > list.length) {
+      if (count < 0 || count >= MOST_ELEMENTS || length < 1 || length > list.length) {
         return false;
       }
-      int start = starts[count];
-      packed = roomy(packed, start + length);
+      int start = start(count);
+      makeRoom(start + length);
       System.arraycopy(list, 0, packed, start, length);
       int left = total;
       for (int variable = 0; variable < VARIABLES; variable++) {
@@ -1986,10 +2001,18 @@ public final class Polyforge {
         left -= exponent;
       }
       leads[EXPONENTS * count + VARIABLES] = left;
-      gone[count] = false;
+      gone[count] = 0;
       count++;
       starts[count] = start + length;
       return true;
+    }
+
+    /** Makes room for one polynomial more, and for so many terms in all. */
+    private void makeRoom(int terms) {
+      packed = roomy(packed, terms);
+      starts = roomy(starts, count + 2);
+      leads = roomy(leads, EXPONENTS * (count + 1));
+      gone = roomy(gone, count + 1);
     }
 
     boolean leadDivides(int element, int first, int second, int third, int fourth) {
@@ -2201,7 +2224,7 @@ public final class Polyforge {
     void load(Polynomial polynomial, char order) {
       begin(polynomial.ground);
       for (int i = 0; i < polynomial.length(); i++) {
-        insertTerm(Key.term(Key.of(order, polynomial.monomial(i)), (int) polynomial.coefficient(i)));
+        insertTerm(Key.term(Key.ofMonomial(order, polynomial.monomial(i)), (int) polynomial.coefficient(i)));
       }
     }
 
@@ -2258,9 +2281,10 @@ public final class Polyforge {
 
   /** Makes reduced bases: pairs of polynomials are brought together by rising total degree, after Buchberger. */
   private static final class Completion {
-    /** Some seven times what the largest of a million random bases needed; what goes beyond is left out. */
-    private static final int MOST_ELEMENTS = 400;
-    private static final int MOST_PAIRS = 1000;
+    /** Where the rows begin, which grow; most ideals need fewer polynomials and pairs at once. */
+    private static final int FEW = 16;
+    /** Far above what the room of a run could hold. */
+    private static final int MOST_PAIRS = 1000000;
     private static final int PAIR = 7;
     private static final int TOTAL = 2;
     private static final int LEAST = 3;
@@ -2270,13 +2294,13 @@ public final class Polyforge {
     private static final int DROPPED = 2;
 
     private final Divider divider = new Divider();
-    private final Stock work = new Stock(MOST_ELEMENTS, 1024);
-    private final Stock built = new Stock(MOST_ELEMENTS, 512);
+    private final Stock work = new Stock(FEW, 256);
+    private final Stock built = new Stock(FEW, 256);
     /** For each pair its two polynomials, its total degree, and the exponents of the least common multiple. */
-    private final int[] pairs = new int[PAIR * MOST_PAIRS];
+    private int[] pairs = new int[PAIR * FEW];
     private int pairCount = 0;
-    private final int[] multiples = new int[EXPONENTS * MOST_ELEMENTS];
-    private final int[] states = new int[MOST_ELEMENTS];
+    private int[] multiples = new int[EXPONENTS * FEW];
+    private int[] states = new int[FEW];
 
     /** Begins a basis in the order r. */
     void startWithGenerators(Ideal ideal) {
@@ -2372,7 +2396,7 @@ public final class Polyforge {
     }
 
     private void dropPair(int pair) {
-      if (pairCount < 1 || pairCount > MOST_PAIRS || pair < 0 || pair > PAIR * (pairCount - 1)) {
+      if (pairCount < 1 || PAIR * pairCount > pairs.length || pair < 0 || pair > PAIR * (pairCount - 1)) {
         return;
       }
       pairCount--;
@@ -2392,13 +2416,13 @@ public final class Polyforge {
 
     /** Chooses the polynomials that a new one needs a pair with, after Gebauer and Moeller. */
     private void choosePartners(int added) {
-      for (int i = 0; i < added && i < MOST_ELEMENTS; i++) {
+      states = roomy(states, added);
+      multiples = roomy(multiples, EXPONENTS * added);
+      for (int i = 0; i < added && i < states.length; i++) {
         states[i] = work.isGone(i) ? DROPPED : UNSEEN;
-        for (int j = 0; j < EXPONENTS; j++) {
-          multiples[EXPONENTS * i + j] = Math.max(work.lead(i, j), work.lead(added, j));
-        }
+        noteMultiple(i, added);
       }
-      for (int i = 0; i < added && i < MOST_ELEMENTS; i++) {
+      for (int i = 0; i < added && i < states.length; i++) {
         if (states[i] == UNSEEN) {
           states[i] = isDisjoint(i, added) || !isCovered(i, added) ? CHOSEN : DROPPED;
         }
@@ -2406,7 +2430,7 @@ public final class Polyforge {
     }
 
     private void addPairs(int added) {
-      for (int i = 0; i < added && i < MOST_ELEMENTS; i++) {
+      for (int i = 0; i < added && i < states.length; i++) {
         if (states[i] == CHOSEN && !isDisjoint(i, added)) {
           addPair(i, added);
         }
@@ -2436,7 +2460,7 @@ public final class Polyforge {
 
     /** Whether the multiple of another polynomial that is not dropped divides that of this one. */
     private boolean isCovered(int element, int added) {
-      for (int i = 0; i < added && i < MOST_ELEMENTS; i++) {
+      for (int i = 0; i < added && i < states.length; i++) {
         if (i != element && states[i] != DROPPED && multipleDivides(i, element)) {
           return true;
         }
@@ -2453,6 +2477,13 @@ public final class Polyforge {
       return true;
     }
 
+    private void noteMultiple(int element, int added) {
+      int place = EXPONENTS * element;
+      for (int i = 0; i < EXPONENTS && place >= 0 && place + i < multiples.length; i++) {
+        multiples[place + i] = Math.max(work.lead(element, i), work.lead(added, i));
+      }
+    }
+
     /** An exponent of the least common multiple of a polynomial and the one that is added. */
     private int multiple(int element, int variable) {
       int place = EXPONENTS * element + variable;
@@ -2463,6 +2494,7 @@ public final class Polyforge {
       if (pairCount < 0 || pairCount >= MOST_PAIRS) {
         return;
       }
+      pairs = roomy(pairs, PAIR * (pairCount + 1));
       int pair = PAIR * pairCount;
       pairs[pair] = first;
       pairs[pair + 1] = second;
@@ -2513,7 +2545,7 @@ public final class Polyforge {
       }
       built.clear(work.prime, work.order);
       int element = leastAbove(-1);
-      for (int i = 0; i < MOST_ELEMENTS && element >= 0; i++) {
+      for (int i = 0; i < work.count && element >= 0; i++) {
         divider.begin(work.prime);
         divider.keepAside(work.termOf(element, 0));
         divider.insertTail(work, element, 0, 1);
